@@ -324,9 +324,9 @@ public final class EarlyDrops {
         for (int weight = 0; weight <= HIGHEST_WEIGHT; weight++) {
             ahead.copyFrom(router);
             ahead.weight = weight;
-            long drops = dropsAhead(ticks);
-            if (drops < fewest) {
-                fewest = drops;
+            long dropped = droppedBehind(ticks);
+            if (dropped < fewest) {
+                fewest = dropped;
                 best = weight;
             }
         }
@@ -340,9 +340,9 @@ public final class EarlyDrops {
         for (int top = 0; top <= WHOLE; top += TOP_STEP) {
             ahead.copyFrom(router);
             ahead.top = top;
-            long drops = dropsAhead(ticks);
-            if (drops < fewest) {
-                fewest = drops;
+            long dropped = droppedBehind(ticks);
+            if (dropped < fewest) {
+                fewest = dropped;
                 best = top;
             }
         }
@@ -352,10 +352,10 @@ public final class EarlyDrops {
     public long gain(int ticks) throws IllegalArgumentException {
         requireWithin(ticks, 1, MOST_AHEAD);
         ahead.copyFrom(router);
-        long drops = dropsAhead(ticks);
+        long dropped = droppedBehind(ticks);
         ahead.copyFrom(router);
         ahead.early = false;
-        return dropsAhead(ticks) - drops;
+        return droppedBehind(ticks) - dropped;
     }
 
     // ---- changes
@@ -483,11 +483,11 @@ public final class EarlyDrops {
         }
     }
 
-    private long dropsAhead(int ticks) {
+    private long droppedBehind(int ticks) {
         for (int passed = 0; passed < ticks; passed++) {
             ahead.passTick();
         }
-        return ahead.dropped() - router.dropped();
+        return ahead.dropped();
     }
 
     private double shareLetIn(int packets) {

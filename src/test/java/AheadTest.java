@@ -53,6 +53,14 @@ public final class AheadTest {
         Checks.due("23 though there are marks", true, () -> marks.accountIn(0, 1, 200) > 0);
         EarlyDrops twice = Checks.router("router 1 1;flow a 50 50 1 1;flow b 50 50 1 1");
         Checks.due("28 by another flow", 50, twice::dropIn);
+        // with windows of 1, 2, 3, 4 and 5 for LIMIT 4
+        EarlyDrops far = Checks.router("router 4 9;flow a 1 50 1 9");
+        Checks.due("28 201 is too far", -1, far::dropIn);
+        far.tick(1);
+        Checks.due("28 200", 200, far::dropIn);
+        Checks.due("24 without a look ahead before", 2, () -> Checks.router(FULL_ONLY).queueIn(3));
+        Checks.due("25 without a look ahead before", 3072, () -> Checks.router(FULL_ONLY).averageIn(3));
+        Checks.due("26 without a look ahead before", 3, () -> Checks.router(FULL_ONLY).windowIn(0, 3));
         EarlyDrops end = Checks.router("router 2 1;flow a 1 1 1 1;flow b 99 50 1 1");
         end.tick(50);
         end.setOn(1, false);

@@ -50,6 +50,7 @@ public final class ChancesTest {
         Checks.due("18 65536 at most", 65536, () -> x.chance(2560, 1));
         Checks.due("18 BASE of 49152", 49152, () -> x.chance(2560, 0));
         Checks.due("18 below LOW", 0, () -> x.chance(1023, 9999));
+        Checks.due("18 at 0", 0, () -> x.chance(0, 0));
         Checks.due("18 above", 65536, () -> x.chance(3072, 0));
         Checks.due("18 above with COUNT", 65536, () -> x.chance(99999, 9999));
         x.setTop(1);
@@ -127,6 +128,10 @@ public final class ChancesTest {
         Checks.due("21 a half", 0.5, () -> z.burst(1));
         Checks.due("22 at least 50", 1, () -> z.sureBurst(50));
         Checks.due("22 not at least 51", 0, () -> z.sureBurst(51));
+        z.setTop(2);
+        Checks.due("22 all but sure", 65535 / 65536.0, () -> z.burst(1));
+        Checks.due("22 not quite 100", 0, () -> z.sureBurst(100));
+        Checks.due("22 at least 99", true, () -> z.sureBurst(99) > 0);
         Checks.argument("22 0", () -> x.sureBurst(0));
         Checks.argument("22 101", () -> x.sureBurst(101));
     }

@@ -221,11 +221,23 @@ public final class StateTest {
         Checks.due("11 sure", "0 0 3 768 1 65536 20227 2", () -> Checks.decisionOf(z, 0));
         Checks.due("11 likely", "0 0 3 512 1 65536 11517 2", () -> Checks.decisionOf(z, 1));
         Checks.due("11 never", "0 0 3 0 0 0 33676 0", () -> Checks.decisionOf(z, 2));
+        // BASE of the next is TOP * 3072 / 4096, and its draw 33676
+        Checks.due("11 a draw of CHANCE is not less", "0 0 3 3072 0 33676 33676 0", () -> firstDraw(44902));
+        Checks.due("11 a draw below CHANCE is", "0 0 3 3072 0 33677 33676 2", () -> firstDraw(44903));
         EarlyDrops many = Checks.router("router 40 9;limits 0 40;top 20000;weight 1;flow a 1 1 9 9;flow b 1 1 9 9 marks");
         for (int i = 0; i < 40; i++) {
             many.tick(1);
             Checks.due("12 never amiss", 0, many::amiss);
         }
+    }
+
+    private static String firstDraw(int top) {
+        EarlyDrops x = Checks.router("router 9 1;limits 39 40;weight 0;flow a 9 9 1 1");
+        x.send(0, 3);
+        x.setLimits(0, 4);
+        x.setTop(top);
+        x.send(0, 1);
+        return Checks.decisionOf(x, 0);
     }
 
     private static void gentleDecisions() {

@@ -46,6 +46,11 @@ public final class TextsTest {
         }
         Checks.due("2 up to 499", 499, () -> y.feed(-1, -1, -1, -1, 0xffffff));
         Checks.due("2 beyond 500", -1, () -> y.feed(0x2020, 0, 0, 0, 0));
+        Checks.due("2 beyond 500 by the first", -1, () -> y.feed(0x20200000, 0, 0, 0, 0));
+        Checks.due("2 beyond 500 by the second", -1, () -> y.feed(0, 0x2020, 0, 0, 0));
+        Checks.due("2 beyond 500 by the third", -1, () -> y.feed(0, 0, 0x20002000, 0, 0));
+        Checks.due("2 beyond 500 by the fourth", -1, () -> y.feed(0, 0, 0, 0x200020, 0));
+        Checks.due("2 beyond 500 by two of them", -1, () -> y.feed(0, 32, 32, 0, 0));
         Checks.due("2 beyond 500 by the last", -1, () -> y.feed(32, 0, 0, 0, 32));
         Checks.due("2 nothing was appended", 500, () -> y.feed(0, 0, 0, 0, 32));
         Checks.due("2 zeros always fit", 500, () -> y.feed(0, 0, 0, 0, 0));
@@ -103,6 +108,14 @@ public final class TextsTest {
         Checks.due("3 no saved state 1", -1, () -> x.restore(1));
         Checks.due("3 nothing to undo", -1, x::undo);
         Checks.due("3 empty buffer", 1, () -> x.feed(32, 0, 0, 0, 0));
+        EarlyDrops again = Checks.router("router 9 1;top 5;flow a 1 1 2 2;flow b 1 1 3 3");
+        again.tick(2);
+        Checks.due("3 the same statements anew", 1, () -> Checks.load(again, "router 9 1;top 5;flow a 1 1 2 2"));
+        Checks.due("3 no flow that was told before", 0L, () -> again.account(-1, 0));
+        Checks.due("3 nor that is on", 1, () -> again.size(12));
+        again.tick(1);
+        Checks.due("3 nor that sends", 2L, () -> again.account(-1, 0));
+        Checks.runFails("router 9 1;flow a 1 1 2 2", "send b 1;", 4, 5);
         EarlyDrops kept = Checks.router("router 9 1");
         kept.setTop(9);
         kept.save(1);
@@ -204,6 +217,19 @@ public final class TextsTest {
         Checks.due("4 two ticks", 9, () -> x.size(7));
         Checks.due("4 its answer counts no drops", 1, () -> Checks.run(x, "send a 40;"));
         Checks.due("4 empty buffer", 1, () -> x.feed(32, 0, 0, 0, 0));
+        EarlyDrops y = Checks.router(TWO);
+        Checks.due("4 the lowest numbers", 6, () -> Checks.run(y, "tick 1;send a 1;limits 0 1;top 0;weight 0;gentle 0;"));
+        Checks.due("4 as told", "9 1 0 1 0 0 0 1 1 0 -1 2 2 1 1 ", () -> Checks.sizes(y));
+        Checks.due("4 the highest numbers", 6, () ->
+            Checks.run(y, "tick 50;send b 40;limits 39 40;top 65536;weight 10;gentle 1;"));
+        Checks.due("4 as told", "9 1 39 40 65536 10 1 51", () -> Checks.sizes(y).replaceFirst("(( ?\\d+){8}).*", "$1"));
+        EarlyDrops z = Checks.router(TWO);
+        Checks.due("4 an error within brackets", -12, () -> Checks.run(z, "again 2(again 2(tick 0;););"));
+        Checks.due("4 and the next script", 1, () -> Checks.run(z, "again 1(again 1(tick 1;););"));
+        Checks.due("4 30 brackets", 0, () -> Checks.run(z, "again 2();".repeat(30)));
+        Checks.due("4 29 brackets and an order", 1, () -> Checks.run(z, "again 2();".repeat(29) + "tick 1;"));
+        Checks.due("4 15 brackets with an order each", 30, () -> Checks.run(z, "again 2(tick 1;);".repeat(15)));
+        Checks.due("4 time 32", 32, () -> z.size(7));
     }
 
     private static void runEnds() {
