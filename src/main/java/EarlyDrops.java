@@ -320,12 +320,12 @@ public final class EarlyDrops {
     public int bestWeight(int ticks) throws IllegalArgumentException {
         requireWithin(ticks, 1, MOST_TRIED);
         int best = 0;
-        long fewest = Long.MAX_VALUE;
+        long fewest = NONE;
         for (int weight = 0; weight <= HIGHEST_WEIGHT; weight++) {
             ahead.copyFrom(router);
             ahead.weight = weight;
             long dropped = droppedBehind(ticks);
-            if (dropped < fewest) {
+            if (fewest == NONE || dropped < fewest) {
                 fewest = dropped;
                 best = weight;
             }
@@ -336,12 +336,12 @@ public final class EarlyDrops {
     public int bestTop(int ticks) throws IllegalArgumentException {
         requireWithin(ticks, 1, MOST_TRIED);
         int best = 0;
-        long fewest = Long.MAX_VALUE;
+        long fewest = NONE;
         for (int top = 0; top <= WHOLE; top += TOP_STEP) {
             ahead.copyFrom(router);
             ahead.top = top;
             long dropped = droppedBehind(ticks);
-            if (dropped < fewest) {
+            if (fewest == NONE || dropped < fewest) {
                 fewest = dropped;
                 best = top;
             }

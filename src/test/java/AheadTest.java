@@ -10,7 +10,6 @@ public final class AheadTest {
         bestWeight();
         bestTop();
         gain();
-        beyondTheLastTime();
         asItComes();
         Checks.end();
     }
@@ -113,28 +112,26 @@ public final class AheadTest {
         }
         Checks.due("29 whatever it is now", 5, () -> x.bestWeight(1));
         Checks.due("29 no drops", 0, () -> new EarlyDrops().bestWeight(100));
-        EarlyDrops y = Checks.router("router 20 3;limits 1 4;top 30000;flow a 1 2 3 9;flow b 2 3 1 9 marks;seed 77");
-        y.tick(9);
         for (int ticks = 1; ticks <= 100; ticks += 9) {
+            EarlyDrops y = Checks.router("router 20 3;limits 1 4;top 30000;flow a 1 2 3 9;flow b 2 3 1 9 marks;seed 77");
+            y.tick(9);
             int some = ticks;
             Checks.due("29 as by setting each", bySetting(y, 10, 1, some), () -> y.bestWeight(some));
         }
     }
 
     private static void bestTop() {
-        EarlyDrops y = Checks.router("router 12 4;limits 0 40;weight 0;flow a 1 1 8 8 marks");
-        Checks.due("30 TOP 0 has drops", true, () -> bySetting(y, 16, 4096, 3) > 0);
+        String marks = "router 12 4;limits 0 40;weight 0;flow a 1 1 8 8 marks";
+        Checks.due("30 TOP 0 has drops", true, () -> bySetting(Checks.router(marks), 16, 4096, 3) > 0);
         Checks.due("30 no drops", 0, () -> new EarlyDrops().bestTop(100));
         for (int ticks = 1; ticks <= 100; ticks += 9) {
-            int some = ticks;
-            Checks.due("30 as by setting each", bySetting(y, 16, 4096, some), () -> y.bestTop(some));
-        }
-        Checks.due("30 TOP stays", 6554, () -> y.size(4));
-        EarlyDrops x = Checks.router("router 20 3;limits 1 4;flow a 1 2 3 9;flow b 2 3 1 9 marks;seed 77");
-        x.tick(9);
-        for (int ticks = 1; ticks <= 100; ticks += 9) {
+            EarlyDrops x = Checks.router(marks);
             int some = ticks;
             Checks.due("30 as by setting each", bySetting(x, 16, 4096, some), () -> x.bestTop(some));
+            Checks.due("30 TOP stays", 6554, () -> x.size(4));
+            EarlyDrops y = Checks.router("router 20 3;limits 1 4;flow a 1 2 3 9;flow b 2 3 1 9 marks;seed 77");
+            y.tick(9);
+            Checks.due("30 as by setting each, later", bySetting(y, 16, 4096, some), () -> y.bestTop(some));
         }
     }
 
@@ -178,45 +175,42 @@ public final class AheadTest {
         Checks.due("31 no flows", 0L, () -> new EarlyDrops().gain(9));
     }
 
-    private static void beyondTheLastTime() {
-        EarlyDrops x = Checks.router("router 9 1;flow a 1 1 1 1");
-        for (int i = 0; i < 5; i++) {
-            Checks.run(x, "again 20(tick 50;tick 50;);");
-        }
-        Checks.due("32 the last time", 9950, () -> x.size(7));
-        x.tick(49);
-        Checks.due("23 ticks are looked at beyond it", 10L, () -> x.accountIn(0, 0, 10));
-    }
-
     private static void asItComes() {
-        EarlyDrops x = Checks.router("router 9 2;limits 1 6;weight 1;top 20000;gentle 1;flow a 1 2 3 9;flow b 2 3 1 9 marks");
-        for (int i = 0; i < 30; i++) {
-            long[] before = new long[8];
+        for (int time = 0; time < 90; time += 3) {
+            EarlyDrops x = later(time);
+            EarlyDrops looked = later(time);
             long[] grown = new long[8];
             for (int what = 0; what < 8; what++) {
-                before[what] = x.account(1, what);
-                grown[what] = x.accountIn(1, what, 3);
+                grown[what] = looked.accountIn(1, what, 3);
             }
-            int queue = x.queueIn(3);
-            int average = x.averageIn(3);
-            int window = x.windowIn(0, 3);
-            int longest = Math.max(x.queueIn(1), Math.max(x.queueIn(2), queue));
-            Checks.due("27 of three", longest, () -> x.longest(3));
-            String told = Checks.sizes(x) + Checks.flowOf(x, 0) + Checks.decisionsOf(x);
-            x.longest(200);
-            x.dropIn();
-            x.bestTop(20);
-            x.bestWeight(20);
-            x.gain(30);
-            Checks.due("23 to 31 change nothing", told, () -> Checks.sizes(x) + Checks.flowOf(x, 0) + Checks.decisionsOf(x));
+            int queue = looked.queueIn(3);
+            int average = looked.averageIn(3);
+            int window = looked.windowIn(0, 3);
+            int longest = Math.max(looked.queueIn(1), Math.max(looked.queueIn(2), queue));
+            Checks.due("27 of three", longest, () -> looked.longest(3));
+            looked.longest(200);
+            looked.dropIn();
+            looked.bestTop(20);
+            looked.bestWeight(20);
+            looked.gain(30);
+            Checks.same("23 to 31 change nothing", x, looked);
             x.tick(3);
             for (int what = 0; what < 8; what++) {
                 int some = what;
-                Checks.due("23 as it came", grown[what], () -> x.account(1, some) - before[some]);
+                long before = looked.account(1, what);
+                Checks.due("23 as it came", grown[what], () -> x.account(1, some) - before);
             }
             Checks.due("24 as it came", queue, () -> x.size(8));
             Checks.due("25 as it came", average, () -> x.size(9));
             Checks.due("26 as it came", window, () -> x.flow(0, 6));
         }
+    }
+
+    private static EarlyDrops later(int time) {
+        EarlyDrops x = Checks.router("router 9 2;limits 1 6;weight 1;top 20000;gentle 1;flow a 1 2 3 9;flow b 2 3 1 9 marks");
+        for (int passed = 0; passed < time; passed += 3) {
+            x.tick(3);
+        }
+        return x;
     }
 }

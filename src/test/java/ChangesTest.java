@@ -220,68 +220,85 @@ public final class ChangesTest {
         Checks.due("41 as saved", 9, () -> x.size(4));
     }
 
-    private static String all(EarlyDrops x) {
-        return Checks.sizes(x).replaceAll(" \\d+ $", "") + Checks.flowOf(x, 0) + Checks.flowOf(x, 1) + Checks.queueOf(x)
-            + Checks.accounts(x, 0) + Checks.accounts(x, 1) + Checks.decisionsOf(x) + x.accountIn(-1, 1, 50)
-            + x.accountIn(-1, 2, 60);
-    }
-
     private static void undoRestoresAll() {
-        EarlyDrops x = Checks.router(TWO);
-        x.tick(5);
-        String[] before = new String[7];
-        before[0] = all(x);
-        x.tick(3);
-        before[1] = all(x);
-        x.send(0, 4);
-        before[2] = all(x);
-        x.setOn(1, false);
-        before[3] = all(x);
-        Checks.run(x, "again 3(send c 2;tick 2;top 6;gentle 1;limits 1 2;weight 3;);start c;");
-        before[4] = all(x);
-        x.setLimits(3, 4);
-        before[5] = all(x);
-        x.setGentle(0);
-        before[6] = all(x);
-        x.tick(50);
-        for (int i = 6; i >= 0; i--) {
-            String due = before[i];
-            x.undo();
-            Checks.due("41 all is as before " + i, due, () -> all(x));
+        for (int changes = 0; changes <= 7; changes++) {
+            EarlyDrops x = changed(7);
+            for (int back = 7; back > changes; back--) {
+                x.undo();
+            }
+            Checks.same("41 all is as before change " + changes, changed(changes), x);
         }
     }
 
-    private static void saveAndRestore() {
+    /** A router to which the first ones of these changes have come. */
+    private static EarlyDrops changed(int changes) {
         EarlyDrops x = Checks.router(TWO);
-        Checks.due("43 nothing there", -1, () -> x.restore(0));
+        x.tick(5);
+        if (changes > 0) x.tick(3);
+        if (changes > 1) x.send(0, 4);
+        if (changes > 2) x.setOn(1, false);
+        if (changes > 3) Checks.run(x, "again 3(send c 2;tick 2;top 6;gentle 1;limits 1 2;weight 3;);start c;");
+        if (changes > 4) x.setLimits(3, 4);
+        if (changes > 5) x.setGentle(0);
+        if (changes > 6) x.tick(50);
+        return x;
+    }
+
+    private static void saveAndRestore() {
+        EarlyDrops x = at7();
+        Checks.due("42 save is no change", 4, () -> x.size(14));
+        Checks.due("43 restore", 4, () -> x.restore(0));
+        Checks.due("43 nothing can be undone", -1, x::undo);
+        Checks.same("43 all of it", restored(0), x);
+        EarlyDrops y = at7();
+        y.restore(0);
+        y.tick(9);
+        Checks.due("43 it stays", 4, () -> y.restore(0));
+        Checks.same("43 all of it again", restored(0), y);
+        EarlyDrops z = at7();
+        z.restore(0);
+        Checks.due("43 the other", 7, () -> z.restore(1));
+        Checks.same("43 all of the other", restored(1), z);
+        EarlyDrops w = at7();
+        w.tick(5);
+        Checks.due("42 in place", 12, () -> w.save(0));
+        w.tick(1);
+        Checks.due("43 in place", 12, () -> w.restore(0));
+        w.setTop(1);
+        Checks.due("43 changes after it can be undone", 0, w::undo);
+        EarlyDrops v = Checks.router(TWO);
+        Checks.due("43 nothing there", -1, () -> v.restore(0));
+        v.save(1);
+        Checks.due("43 nothing in the other one", -1, () -> v.restore(0));
+        Checks.argument("42 -1", () -> v.save(-1));
+        Checks.argument("42 2", () -> v.save(2));
+        Checks.argument("43 -1", () -> v.restore(-1));
+        Checks.argument("43 2", () -> v.restore(2));
+    }
+
+    /** A router at the time 7, its state at 4 in slot 0 and the one that it is in in slot 1. */
+    private static EarlyDrops at7() {
+        EarlyDrops x = Checks.router(TWO);
         x.tick(4);
         Checks.due("42 save", 4, () -> x.save(0));
-        Checks.due("42 is no change", 1, () -> x.size(14));
-        String at4 = all(x);
         x.tick(3);
         x.send(1, 3);
         x.setOn(0, false);
-        Checks.due("43 nothing in the other one", -1, () -> x.restore(1));
-        Checks.due("43 nothing changes", 4, () -> x.size(14));
         Checks.due("42 save 1", 7, () -> x.save(1));
-        String at7 = all(x);
-        Checks.due("43 restore", 4, () -> x.restore(0));
-        Checks.due("43 all of it", at4, () -> all(x));
-        Checks.due("43 nothing can be undone", -1, x::undo);
-        x.tick(9);
-        Checks.due("43 it stays", 4, () -> x.restore(0));
-        Checks.due("43 all of it again", at4, () -> all(x));
-        Checks.due("43 the other", 7, () -> x.restore(1));
-        Checks.due("43 all of the other", at7, () -> all(x));
-        x.tick(5);
-        Checks.due("42 in place", 12, () -> x.save(0));
-        x.tick(1);
-        Checks.due("43 in place", 12, () -> x.restore(0));
-        Checks.argument("42 -1", () -> x.save(-1));
-        Checks.argument("42 2", () -> x.save(2));
-        Checks.argument("43 -1", () -> x.restore(-1));
-        Checks.argument("43 2", () -> x.restore(2));
-        x.setTop(1);
-        Checks.due("43 changes after it can be undone", 0, x::undo);
+        return x;
+    }
+
+    /** A router that came by changes to what at7() has in a slot, and that has nothing to undo. */
+    private static EarlyDrops restored(int slot) {
+        EarlyDrops x = Checks.router(TWO);
+        x.tick(4);
+        if (slot == 1) {
+            x.tick(3);
+            x.send(1, 3);
+            x.setOn(0, false);
+        }
+        x.save(0);
+        x.restore(0);
+        return x;
     }
 }

@@ -69,6 +69,15 @@ final class Checks {
         return x;
     }
 
+    /** A router with a past: queue, decisions, accounts, two changes, one of them behind what is saved in slot 0. */
+    static EarlyDrops lived() {
+        EarlyDrops x = router("router 9 1;limits 0 3;weight 0;top 65536;gentle 1;flow a 1 2 3 9;flow m 2 3 2 9 marks");
+        x.tick(5);
+        x.save(0);
+        x.send(1, 4);
+        return x;
+    }
+
     static void loadFails(String text, int code, int at) {
         EarlyDrops x = new EarlyDrops();
         due("load of '" + text + "'", -10 - code, () -> load(x, text));
@@ -130,6 +139,25 @@ final class Checks {
             all.append(x.packet(k, 2) == 1 ? "*" : "");
         }
         return all.toString();
+    }
+
+    /** All that undoing restores, the draws too: some 300 calls, of the 512 for which an object is used. */
+    static String whole(EarlyDrops x) {
+        StringBuilder all = new StringBuilder(sizes(x));
+        for (int flow = 0; flow < x.size(11); flow++) {
+            all.append("flow ").append((char) x.letter(flow, 0)).append(' ').append(flowOf(x, flow));
+            all.append(" accounts ").append(accounts(x, flow)).append(' ');
+        }
+        all.append("queue ").append(queueOf(x)).append(" decisions ").append(decisionsOf(x));
+        for (int what = 1; what <= 4; what++) {
+            all.append("to come ").append(x.accountIn(-1, what, 40)).append(' ');
+        }
+        return all.toString();
+    }
+
+    /** That two objects are in the same state: one that was used plainly, and one with calls that should make no difference. */
+    static void same(String what, EarlyDrops plain, EarlyDrops other) {
+        due(what, whole(plain), () -> whole(other));
     }
 
     static String reported(EarlyDrops x) {

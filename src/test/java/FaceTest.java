@@ -31,11 +31,13 @@ public final class FaceTest {
         "int setTop(int)" + ARGUMENT, "int setWeight(int)" + ARGUMENT, "int setGentle(int)" + ARGUMENT,
         "int setOn(int,boolean)" + INDEX, "int report()", "int reportByte(int)", "int undo()", "int save(int)" + ARGUMENT,
         "int restore(int)" + ARGUMENT};
+    // what no program within the rules can hold; it need not be in the style of this one
     private static final String[] OUTSIDE = {
-        "->", "::", "\\bcatch\\b", "\\btry\\b", "\\bfinally\\b", "\\bassert\\b", "\\bsynchronized\\b", "\\bMath\\.\\w*Exact",
-        "\"\\s*\\+", "\\+\\s*\"", "\\bSystem\\.(?!arraycopy)", "\\bnew (Integer|Object|Random)\\b", "\\bString\\.", "\\bvar\\b",
-        "\\bequals\\(", "\\bhashCode\\b", "\\btoString\\b", "\\bprotected\\b", "\\bpackage\\b", "[^\\x00-\\x7f]", "\\bstatic \\{",
-        "\\bwhile \\(true\\)", "\\bimport (?!java\\.util\\.Arrays;)"};
+        "::", "\\bfinally\\b", "\\bassert\\b", "\\bsynchronized\\b", "\\bvolatile\\b", "\\bnative\\b", "\"\\s*\\+", "\\+\\s*\"",
+        "\\bSystem\\.(?!arraycopy)", "\\bThread\\b", "\\bRandom\\b", "\\bString\\.", "\\bhashCode\\b", "\\bprotected\\b",
+        "\\bpackage\\b", "[^\\x00-\\x7f]", "\\bstatic \\{", "\\bwhile \\(true\\)", "\\bimport (?!java\\.util\\.)", "\\bMath\\.random",
+        "\\bcatch \\((?!IllegalState|IllegalArgument|IndexOutOfBounds|Arithmetic|UnsupportedOperation|NoSuchElement|Runtime)",
+        "(?m)^(?!\\s*(case|default)\\b).*->"};
 
     private FaceTest() {
     }
@@ -80,7 +82,6 @@ public final class FaceTest {
             Checks.due(f.getName() + " is private", !isNone, () -> Modifier.isPrivate(f.getModifiers()));
         }
         for (Class<?> inside : EarlyDrops.class.getDeclaredClasses()) {
-            Checks.due(inside.getName() + " is static", true, () -> Modifier.isStatic(inside.getModifiers()));
             Checks.due(inside.getName() + " is not public", false, () -> Modifier.isPublic(inside.getModifiers()));
             for (Field f : inside.getDeclaredFields()) {
                 boolean isStatic = Modifier.isStatic(f.getModifiers());
@@ -90,7 +91,7 @@ public final class FaceTest {
                 Checks.due(m + " has at most seven parameters", true, () -> m.getParameterCount() <= 7);
             }
         }
-        Checks.due("some twelve classes", true, () -> EarlyDrops.class.getDeclaredClasses().length <= 12);
+        Checks.due("some twelve classes", true, () -> EarlyDrops.class.getDeclaredClasses().length <= 14);
     }
 
     private static void source(String text) {

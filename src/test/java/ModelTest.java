@@ -17,6 +17,7 @@ public final class ModelTest {
     private final Model model = new Model();
     private final StringBuilder told = new StringBuilder();
     private int calls;
+    private boolean isReportDue = true;
 
     private ModelTest(long seed) {
         random = new Random(seed);
@@ -79,16 +80,16 @@ public final class ModelTest {
 
     private List<String> names() {
         List<String> names = new ArrayList<>();
-        for (int flow = 0; flow < subject.size(11); flow++) {
+        for (int flow = 0; flow < model.size(11); flow++) {
             StringBuilder name = new StringBuilder();
-            for (int i = 0; subject.letter(flow, i) >= 0; i++) name.append((char) subject.letter(flow, i));
+            for (int i = 0; model.letter(flow, i) >= 0; i++) name.append((char) model.letter(flow, i));
             names.add(name.toString());
         }
         return names;
     }
 
     private int flow() {
-        int flows = subject.size(11);
+        int flows = model.size(11);
         return flows == 0 || random.nextInt(15) == 0 ? around(-1, 6) : random.nextInt(flows);
     }
 
@@ -102,8 +103,8 @@ public final class ModelTest {
     }
 
     private Object[] arguments(Method m) {
-        int kept = subject.size(13);
-        int waiting = subject.size(8);
+        int kept = model.size(13);
+        int waiting = model.size(8);
         int all = random.nextInt(3) == 0 ? -1 : flow();
         int ticks = random.nextInt(3) == 0 ? around(0, 200) : around(1, 30);
         int average = random.nextInt(4) == 0 ? around(0, 99999) : around(0, 45000);
@@ -155,10 +156,21 @@ public final class ModelTest {
         return wrong != null ? wrong : call(named("errorPosition"));
     }
 
+    /** What the document leaves free: looks ahead that pass the time 9999, and a report that a setup has come behind. */
+    private boolean isFree(String name, Object[] arguments) {
+        if (name.equals("reportByte")) return !isReportDue;
+        if (name.equals("dropIn")) return model.size(7) + 200 > 9999;
+        boolean isLook = name.matches("\\w+In|longest|best\\w+|gain");
+        return isLook && (int) arguments[arguments.length - 1] > 9999 - model.size(7);
+    }
+
     private String call(Method m, Object... arguments) throws Exception {
+        if (isFree(m.getName(), arguments)) return null;
         calls++;
         Object got = answer(m, subject, arguments);
         Object due = answer(Model.class.getMethod(m.getName(), m.getParameterTypes()), model, arguments);
+        if (m.getName().equals("report")) isReportDue = true;
+        if (m.getName().equals("load") && (int) due >= 0) isReportDue = false;
         told.append(m.getName()).append(Arrays.toString(arguments)).append(" = ").append(got).append('\n');
         return got.equals(due) ? null : "due is " + due;
     }
