@@ -316,9 +316,14 @@ public final class EdgesOfTextsTest {
         Checks.due("it has a past", true, () -> x.size(7) == 5 && x.size(8) > 0 && x.size(13) > 0 && x.size(14) == 2);
         Checks.load(x, "router 20 1;flow a 1 1 1 1");
         Checks.same("as a new one", Checks.router("router 20 1;flow a 1 1 1 1"), x);
+        EarlyDrops drops = Checks.router("router 1 1;flow a 9 9 1 1;flow b 9 9 1 1");
+        drops.send(1, 5);
+        Checks.load(drops, "router 9 1;flow a 9 9 1 1");
+        drops.send(0, 1);
+        Checks.due("no drops of a flow that is no more", 0f, drops::lossShare);
         EarlyDrops fewer = Checks.lived();
         Checks.load(fewer, "router 20 1");
-        Checks.due("drops of flows that are no more", 0f, fewer::lossShare);
+        Checks.due("nothing arrived by flows that are no more", 0f, fewer::lossShare);
         Checks.due("accounts of flows that are no more", "0 0 0 0 0 0 0 0", () -> Checks.accounts(fewer, -1));
         fewer.tick(5);
         Checks.due("they send no more", "0 0", () -> fewer.size(8) + " " + fewer.size(13));
